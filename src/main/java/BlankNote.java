@@ -970,6 +970,7 @@ public final class BlankNote {
                 begin++;
             }
             end = begin;
+            value = 0;
             if (begin >= length) {
                 kind = END;
             } else if (isLetter(begin)) {
@@ -978,23 +979,17 @@ public final class BlankNote {
                     end++;
                 }
             } else if (isDigit(begin)) {
-                readDigits();
-            } else if (SIGNS.indexOf(text[begin]) >= 0) {
-                kind = SIGN;
-                end++;
+                kind = NUMBER;
+                while (end < length && isDigit(end)) {
+                    value = end - begin < DIGITS ? value * 10 + text[end] - '0' : value;
+                    end++;
+                }
             } else {
-                fail(NO_TOKEN);
+                kind = SIGN;
+                end += SIGNS.indexOf(text[begin]) < 0 ? 0 : 1;
             }
-        }
-
-        private void readDigits() {
-            kind = NUMBER;
-            value = 0;
-            while (end < length && isDigit(end)) {
-                value = end - begin < DIGITS ? value * 10 + text[end] - '0' : value;
-                end++;
-            }
-            if (end - begin > DIGITS) {
+            boolean tooLong = kind == NUMBER && end - begin > DIGITS;
+            if (tooLong || (kind == SIGN && end == begin)) {
                 fail(NO_TOKEN);
             }
         }
@@ -1726,7 +1721,7 @@ public final class BlankNote {
             }
             int bits = 0;
             for (int n = 0; n < valley.notes; n++) {
-                if ((set >> n & 1) == 1 && (valley.follow[n] & beginnings[set & ~(1 << n)]) != 0) {
+                if ((set >> n & 1) == 1 && (valley.follow[n] & beginnings[without(set, n)]) != 0) {
                     bits |= 1 << n;
                 }
             }
@@ -1736,7 +1731,7 @@ public final class BlankNote {
         private int beginningsWithout(int used, int size, int notes) {
             int bits = 0;
             for (int set = 1; set < 1 << notes; set++) {
-                if ((set & used) == 0 && Integer.bitCount(set) == size) {
+                if (beginnings[set] != 0 && (set & used) == 0 && Integer.bitCount(set) == size) {
                     bits |= beginnings[set];
                 }
             }
@@ -1757,14 +1752,14 @@ public final class BlankNote {
             }
             measureWays(valley, heard);
             measureMore(valley.notes, heard, needed);
-            int left = FAR;
+            int total = FAR;
             for (int n = 0; n < valley.notes; n++) {
-                left = (heard >> n & 1) == 1 ? Math.min(left, 1 + more[needed * MOST_NOTES + n]) : left;
+                total = (heard >> n & 1) == 1 ? Math.min(total, 1 + more[without(needed, n) * MOST_NOTES + n]) : total;
             }
-            if (left > MOST_LENGTH) {
+            if (total > MOST_LENGTH) {
                 return false;
             }
-            layOutThrough(valley, heard, needed, left);
+            layOutThrough(valley, heard, needed, total);
             return true;
         }
 
@@ -1786,11 +1781,12 @@ public final class BlankNote {
             }
         }
 
+        /** Lesser sets are measured ahead of those that they are within. */
         private void measureMore(int notes, int heard, int needed) {
             for (int set = 0; set <= needed; set++) {
                 for (int n = 0; n < notes && (set & ~needed) == 0; n++) {
-                    if ((heard >> n & 1) == 1) {
-                        more[set * MOST_NOTES + n] = fewestMore(notes, set & ~(1 << n), n);
+                    if ((heard >> n & 1) == 1 && (set >> n & 1) == 0) {
+                        more[set * MOST_NOTES + n] = fewestMore(notes, set, n);
                     }
                 }
             }
@@ -1800,10 +1796,14 @@ public final class BlankNote {
             int best = set == 0 ? 0 : FAR;
             for (int to = 0; to < notes && set != 0; to++) {
                 if ((set >> to & 1) == 1) {
-                    best = Math.min(best, far[n * MOST_NOTES + to] + more[(set & ~(1 << to)) * MOST_NOTES + to]);
+                    best = Math.min(best, far[n * MOST_NOTES + to] + more[without(set, to) * MOST_NOTES + to]);
                 }
             }
             return best;
+        }
+
+        private static int without(int set, int n) {
+            return set & ~(1 << n);
         }
 
         private void layOutThrough(Valley valley, int heard, int needed, int total) {
@@ -1816,14 +1816,14 @@ public final class BlankNote {
                 }
                 path[length] = n;
                 length++;
-                set &= ~(1 << n);
+                set = without(set, n);
                 open = heard & valley.follow[n];
             }
         }
 
         private int firstTowards(int open, int set, int left, int notes) {
             for (int n = 0; n < notes; n++) {
-                if ((open >> n & 1) == 1 && more[(set & ~(1 << n)) * MOST_NOTES + n] == left) {
+                if ((open >> n & 1) == 1 && more[without(set, n) * MOST_NOTES + n] == left) {
                     return n;
                 }
             }
