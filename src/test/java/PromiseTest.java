@@ -177,6 +177,12 @@ public final class PromiseTest {
         faulty("scale 2;Tune 0;", 1, 8);
         faulty("scale 2;tune 0!", 1, 14);
         faulty("scale 2;tune 5!", 3, 13);
+        faulty("scale 2;az;", 2, 8);
+        faulty("scale 2;{", 1, 8);
+        faulty("scale 2;`", 1, 8);
+        faulty("scale 2;/", 1, 8);
+        faulty("scale 2;tune 0,", 1, 14);
+        faulty("scale 2;\u00e9", 1, 8);
         faulty("scale 2 2;", 2, 8);
         faulty("scale 2;;", 2, 8);
         faulty("scale 2;scale 2;", 2, 8);
@@ -267,6 +273,11 @@ public final class PromiseTest {
         heard("0 - 999 * 999 * 999 - 999 + 999 * 999 = 0 - 999 - 999 - 1", 15, 15);
         heard("(0 - 999 * 999) * 999 + 999 * 999 = 0 - 999 - 999 - 1", 15, 15);
         heard("note<2+1and note>0", 6, 6);
+        String or = "1 = 2 or 1 = 1 and [";
+        String plus = "0 + 1 * (";
+        heard(or.repeat(6) + "note = 0 + 1 * 1" + "]".repeat(6), 2, 2);
+        heard("1 = 2 or 1 = 1 and note = " + plus.repeat(6) + "0 + 1 * 2" + ")".repeat(6), 4, 4);
+        heard(or.repeat(3) + "1 = 2 or 1 = 1 and note = " + plus.repeat(3) + "0 + 1 * 3" + ")".repeat(3) + "]".repeat(3), 8, 8);
     }
 
     private static void p4() {
