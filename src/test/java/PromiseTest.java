@@ -1,94 +1,7 @@
-import java.util.ArrayList;
 import java.util.List;
 
 /** Each promise of the document by hand: ordinary calls, edges, and calls that are refused. */
-public final class PromiseTest {
-    private static int wrong = 0;
-    private static int asked = 0;
-    private static String promise = "";
-
-    /** Notes 0 to 3; a chain of places 0 - 1 - 2; three people, the last without a blank. */
-    private static final String CHAIN = "scale 4;tune 0 1 2 3;tune 3 3 1;place 0 4;place 1 2 3;place 2;way 0 1;way 1 2;"
-            + "person at 0 blank 2;person at 1 blank 3 ear 5;person at 2;goes : step < 2;";
-
-    private static void due(String call, long got, long want) {
-        asked++;
-        if (got != want) {
-            wrong++;
-            System.out.println(promise + ": " + call + " answered " + got + ", due is " + want);
-        }
-    }
-
-    private static void feed(BlankNote x, String text) {
-        for (int i = 0; i < text.length(); i += 20) {
-            int[] v = new int[5];
-            for (int j = 0; j < 20; j++) {
-                int c = i + j < text.length() ? text.charAt(i + j) : ' ';
-                v[j / 4] |= c << 24 - j % 4 * 8;
-            }
-            x.feed(v[0], v[1], v[2], v[3], v[4]);
-        }
-    }
-
-    private static int tell(BlankNote x, String text) {
-        feed(x, text);
-        return x.valley(text.length());
-    }
-
-    private static BlankNote told(String text) {
-        BlankNote x = new BlankNote();
-        int lines = 0;
-        for (char c : text.toCharArray()) lines += c == ';' ? 1 : 0;
-        due("valley of <" + text + ">", tell(x, text), lines);
-        return x;
-    }
-
-    private static void tray(BlankNote x, int tray, int sort, long... v) {
-        due("numbers", x.numbers(tray, sort, v.length), 0);
-        for (int i = 0; i < v.length; i++) due("write " + v[i], x.write(tray, i, v[i]), v[i]);
-    }
-
-    /** What can be seen of the state. */
-    private static List<Long> seen(BlankNote x) {
-        List<Long> l = new ArrayList<>();
-        for (int w = 0; w < 10; w++) l.add((long) x.count(w));
-        for (int p = 0; p < x.count(3); p++) for (int w = 0; w < 5; w++) l.add((long) x.person(p, w));
-        for (int k = 0; k < x.count(2); k++) for (int w = 0; w < 3; w++) l.add((long) x.place(k, w));
-        for (int t = 0; t < 4; t++) for (int w = 0; w < 4; w++) l.add((long) x.judge(t, w));
-        l.add((long) x.fault(0));
-        l.add((long) x.fault(1));
-        return l;
-    }
-
-    private static void unchanged(String what, BlankNote x, List<Long> before) {
-        asked++;
-        if (!seen(x).equals(before)) {
-            wrong++;
-            System.out.println(promise + ": " + what + " changed something: " + before + " became " + seen(x));
-        }
-    }
-
-    private static void faulty(String text, int kind, int place) {
-        BlankNote x = told("scale 3;tune 1;");
-        x.days(1);
-        due("valley of <" + text + ">", tell(x, text), -30 - kind);
-        due("fault(0) of <" + text + ">", x.fault(0), kind);
-        due("fault(1) of <" + text + ">", x.fault(1), place);
-        due("notes stay", x.count(0), 3);
-        due("tunes stay", x.count(1), 1);
-        due("day stays", x.count(5), 1);
-        due("undo stays", x.count(7), 1);
-        due("tape is empty", x.count(8), 0);
-        due("lines stay", x.count(9), 2);
-    }
-
-    private static void good(String text, int lines) {
-        BlankNote x = new BlankNote();
-        due("valley of <" + text + ">", tell(x, text), lines);
-        due("fault(0)", x.fault(0), 0);
-        due("fault(1)", x.fault(1), -1);
-    }
-
+public final class PromiseTest extends Bench {
     private static void p1() {
         BlankNote x = new BlankNote();
         int[] counts = {2, 0, 0, 0, 0, 0, 0, 0, 0, 0};
@@ -1050,10 +963,9 @@ public final class PromiseTest {
             PromiseTest::p25, PromiseTest::p26to28, PromiseTest::p29to33, PromiseTest::p34to37, PromiseTest::p38to39, PromiseTest::p40to41,
             PromiseTest::p42, PromiseTest::p43to44, PromiseTest::p45};
         for (int i = 0; i < promises.length; i++) {
-            promise = "promise " + names[i];
+            named("promise " + names[i]);
             promises[i].run();
         }
-        System.out.println(asked + " answers, " + wrong + " not as due");
-        if (wrong != 0) System.exit(1);
+        end();
     }
 }
