@@ -30,6 +30,7 @@ public final class EdgeTextTest extends Bench {
         due("each note may follow each", x.tunes(0, 2), 4);
         due("a text that is refused leaves it so", x.valley(0), -32);
         due("notes", x.count(0), 2);
+        due("NONE", BlankNote.NONE, -1);
         due("a DAY can be over without anybody", x.days(1), 0);
         due("day", x.count(5), 1);
     }
@@ -150,6 +151,11 @@ public final class EdgeTextTest extends Bench {
         due("count(9)", x.count(9), 112);
         due("ways", x.count(6), 1);
         good("scale 2;" + times("goes:1=1;", 99), 100);
+        x = told("scale 4;" + times("goes:1=1;", 95) + "goes:from+1=to;");
+        due("the last of many laws", x.tunes(0, 2), 3);
+        due("the last of many laws", x.longNote(0, 3), 3);
+        x = told("scale 4;place 0;person at 0;" + times("hears:1=1;", 84) + "hears:note=2;");
+        due("the last of many laws", x.person(0, 4), 4);
     }
 
     private static final String[] OF_EACH_KIND = {"scale 2;tune !;", "scale 2;tune ;", "scale 2;tune 2;", "scale 2;tune 0;tune 0;tune 0;tune 0;tune 0;tune 0;tune 0;"};
@@ -334,6 +340,8 @@ public final class EdgeTextTest extends Bench {
         int[] ways = {4, 0, 1};
         for (int k = 0; k < 3; k++) due("place(" + k + ", 0)", x.place(k, 0), ways[k]);
         due("ways", x.count(6), 1);
+        x = told(places + "way 2 0;");
+        for (int k = 0; k < 3; k++) due("told the other way round, place(" + k + ", 0)", x.place(k, 0), ways[k]);
         x = told(places + "way 2 0;way 0 2;way 0 2;");
         for (int k = 0; k < 3; k++) due("told twice, place(" + k + ", 0)", x.place(k, 0), ways[k]);
         due("ways told twice", x.count(6), 1);
@@ -518,6 +526,41 @@ public final class EdgeTextTest extends Bench {
         faulty(h + "1=1:", 2, 17);
     }
 
+    /** What the laws mean: what binds closer, and what stands further left, is first. */
+    private static void meaning() {
+        sentence(5, "TRUTH: BOTH { or BOTH }; BOTH: UNIT { and UNIT }; UNIT: not UNIT, [ TRUTH ], or SUM, one of = < >, SUM. SUM: TERM { + TERM | - TERM }; TERM: ATOM { * ATOM };");
+        heard("not note = 0", 14, 14);
+        heard("not not note = 0", 1, 1);
+        heard("not not not not not not note = 0", 1, 1);
+        heard("not not not not not note = 0", 14, 14);
+        heard("not note = 0 and note < 2", 2, 2);
+        heard("not note = 0 or note = 0", 15, 15);
+        heard("not [note = 0 or note = 1]", 12, 12);
+        heard("not [not note = 2]", 4, 4);
+        heard("note = 0 or note = 1 and note = 2", 1, 1);
+        heard("note = 1 and note = 2 or note = 0", 1, 1);
+        heard("[note = 0 or note = 1] and note = 1", 2, 2);
+        heard("note = 0 or note = 2 or note = 3", 13, 13);
+        heard("note > 0 and note > 1 and note < 3", 4, 4);
+        heard("note < 2", 3, 3);
+        heard("note > 2", 8, 8);
+        heard("2 > note", 3, 3);
+        heard("10 - 3 - 2 = note + 2", 8, 8);
+        heard("10 - (3 - 2) = note + 6", 8, 8);
+        heard("1 + note * 2 = 5", 4, 4);
+        heard("(1 + note) * 2 = 6", 4, 4);
+        heard("2 * note + 1 = 7 - note * 0", 8, 8);
+        heard("10 - 2 * 3 = note + 1", 8, 8);
+        heard("10 - 2 + 3 = note + 8", 8, 8);
+        heard("0 - note < 0 - 1", 12, 12);
+        heard("note * note * note = 8", 4, 4);
+        String or = "1 = 2 or 1 = 1 and [";
+        String plus = "0 + 1 * (";
+        heard(or.repeat(6) + "note = 0 + 1 * 1" + "]".repeat(6), 2, 2);
+        heard("1 = 2 or 1 = 1 and note = " + plus.repeat(6) + "0 + 1 * 2" + ")".repeat(6), 4, 4);
+        heard(or.repeat(5) + "1 = 2 or 1 = 1 and 0 + 1 * (0 + 1 * note) = 0 + 1 * (0 + 1 * 3)" + "]".repeat(5), 8, 8);
+    }
+
     private static void heard(String law, int by0, int by1) {
         BlankNote x = told("scale 4;place 0;person at 0;person at 0 blank 1 ear 7 found;hears : " + law + ";");
         due("by 0: " + law, x.person(0, 4), by0);
@@ -636,6 +679,7 @@ public final class EdgeTextTest extends Bench {
         faults();
         depth();
         grammar();
+        meaning();
         words();
         kept();
         fault();

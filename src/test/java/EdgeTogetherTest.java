@@ -60,10 +60,18 @@ public final class EdgeTogetherTest extends Bench {
 
     private static void row(BlankNote x, int notes, int rows, int... first) {
         due("rows(" + notes + ")", x.rows(notes), rows);
-        for (int k = 0; k < 8; k++) due("row(" + notes + ", " + k + ")", x.row(notes, k), k < first.length ? first[k] : NONE);
+        for (int k = 0; k < 8; k++) {
+            // another set in between, so that nothing of the last answer helps
+            due("rows(0)", x.rows(0), factorial(x.count(3)));
+            due("row(" + notes + ", " + k + ")", x.row(notes, k), k < first.length ? first[k] : NONE);
+        }
         due("row(" + notes + ", max)", x.row(notes, MAX), NONE);
         due("row(" + notes + ", -1)", x.row(notes, -1), -3);
         due("row(" + notes + ", min)", x.row(notes, MIN), -3);
+    }
+
+    private static int factorial(int n) {
+        return n < 2 ? 1 : n * factorial(n - 1);
     }
 
     private static void rows() {
@@ -125,6 +133,7 @@ public final class EdgeTogetherTest extends Bench {
         sentence(28, "PAIRS likewise: two and two, each PERSON once at most: the most, of like ones the first (PERSON by PERSON the one it is with, none behind all).");
         pairs(told(folk(3, 3)), 1023, 3, 3, 4, 5, 0, 1, 2);
         pairs(told(folk(4, 2)), 1023, 2, 4, 5, NONE, NONE, 0, 1);
+        pairs(told(folk(1, 3) + "person at 0 blank 0;"), 1, 2, 1, 0, 3, 2, NONE);
         pairs(told(folk(5, 1)), 1023, 1, 5, NONE, NONE, NONE, NONE, 0);
         x = told("scale 3;place 0;" + "person at 0;".repeat(4) + "hears : not [who = 0 and note = 0 or who = 1 and note = 2 or who = 2 and note > 0 or who = 3 and note < 2];");
         pairs(x, 7, 2, 2, 3, 0, 1);

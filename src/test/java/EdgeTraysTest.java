@@ -219,11 +219,30 @@ public final class EdgeTraysTest extends Bench {
         for (int w : new int[] {-1, 10, 11, MIN, MAX}) due("count(" + w + ")", x.count(w), NONE);
     }
 
+    /** The last call that an object is used for answers as the first would. */
+    private static void lastCall() {
+        named("promise 1, an object is used for 512 calls");
+        BlankNote x = new BlankNote();
+        for (int i = 0; i < 511; i++) x.days(99);
+        due("call 512, the day", x.count(5), 511 * 99);
+        x = new BlankNote();
+        for (int i = 0; i < 511; i++) x.days(i % 99 + 1);
+        due("call 512, undo(10)", x.undo(10), 0);
+        x = new BlankNote();
+        for (int i = 0; i < 255; i++) {
+            x.image(i % 2);
+            x.restore(i % 2);
+        }
+        x.feed(0x7363616c, 0x6520393b, 0x20202020, 0x20202020, 0x20202020);
+        due("call 512, a text", x.valley(20), 1);
+    }
+
     public static void main(String[] args) {
         numbers();
         write();
         images();
         count();
+        lastCall();
         end();
     }
 }

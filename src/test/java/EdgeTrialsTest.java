@@ -128,10 +128,9 @@ public final class EdgeTrialsTest extends Bench {
     // ---- promises 22 to 24
 
     private static void known(String text, int knowing, int begins, int atOnce) {
-        BlankNote x = told(text);
-        due("knowing(0) of <" + text + ">", x.knowing(0), knowing);
-        due("begins(0) of <" + text + ">", x.begins(0), begins);
-        due("atOnce(0) of <" + text + ">", x.atOnce(0), atOnce);
+        due("knowing(0) of <" + text + ">", told(text).knowing(0), knowing);
+        due("begins(0) of <" + text + ">", told(text).begins(0), begins);
+        due("atOnce(0) of <" + text + ">", told(text).atOnce(0), atOnce);
     }
 
     private static void knowing() {
@@ -173,6 +172,11 @@ public final class EdgeTrialsTest extends Bench {
             due("atOnce(" + p + ")", x.atOnce(p), found ? 0 : 1023);
         }
         due("without people", new BlankNote().knowing(0), -2);
+        x = told("scale 4;place 0;person at 0;person at 0 ear 3;hears : note < ear or note < blank;");
+        int[] worst2 = {3, 1, 3, 1};
+        for (int i = 0; i < 4; i++) due("one behind the other, knowing(" + i % 2 + ")", x.knowing(i % 2), worst2[i]);
+        for (int i = 0; i < 4; i++) due("one behind the other, begins(" + i % 2 + ")", x.begins(i % 2), i % 2 * 3);
+        for (int i = 0; i < 4; i++) due("one behind the other, atOnce(" + i % 2 + ")", x.atOnce(i % 2), 15 - i % 2 * 7);
     }
 
     public static void main(String[] args) {

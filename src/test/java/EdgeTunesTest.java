@@ -100,6 +100,12 @@ public final class EdgeTunesTest extends Bench {
         through(told(STAR), 0, 3, 0, 1);
         through(told(RING), 0, 513, 9, 0);
         through(told(RING), 0, 33, 0, 1, 2, 3, 4, 5);
+        through(told(RING), 0, 129, 7, 8, 9, 0);
+        through(told(RING), 0, 385, 7, 8, 9, 0);
+        through(told("scale 4;goes : from = 0 and to = 2 or from = 2 and to = 3 or from = 1 and to = 3;"), 0, 9, 0, 2, 3);
+        String two = "scale 4;place 0;person at 0 blank 1;goes : from = 0 and to > 0 and to < 3 or to = 3 and from > 0 and from < 3;";
+        through(told(two), 0, 9, 0, 1, 3);
+        through(told(two), 1, 9, 0, 2, 3);
         through(told(RING), 0, 1023, 0, 1, 2, 3, 4, 5, 6, 7, 8, 9);
         through(told(ROUNDS), 0, 1023, 5, 0, 1, 2, 3, 4, 6, 0, 1, 2, 3, 4, 7, 0, 1, 2, 3, 4, 8, 0, 1, 2, 3, 4, 9);
         through(told(ROUNDS), 0, 992, 5, 0, 1, 2, 3, 4, 6, 0, 1, 2, 3, 4, 7, 0, 1, 2, 3, 4, 8, 0, 1, 2, 3, 4, 9);
@@ -154,7 +160,7 @@ public final class EdgeTunesTest extends Bench {
             for (int size : new int[] {0, 1, 9, 10, 11, 40}) {
                 BlankNote x = told(FULL + "goes : from = to + 1;");
                 x.numbers(sort, sort, size);
-                for (int i = 0; i < size; i++) x.write(sort, i, NONE);
+                for (int i = 0; i < size; i++) x.write(sort, i, 105);
                 due("lists into " + size, x.lists(sort, 0), Math.min(size, 10));
                 inTray(x, sort, size, 10);
             }
@@ -177,7 +183,7 @@ public final class EdgeTunesTest extends Bench {
         due("without people", new BlankNote().lists(0, 0), -6);
     }
 
-    /** Notes 9 to 0 of the longest tune, then days: person 0 at place 0 goes to no place above 5. */
+    /** Notes 9 to 0 of the longest tune, then an ear each: person 0 at place 0 goes to no place above 5. */
     private static void inTray(BlankNote x, int tray, int size, int notes) {
         int[] whys = {2, 0, 0, 0, 0, 0, 1, 1, 1, 1};
         for (int i = 0; i < Math.min(size, notes); i++) {
@@ -185,7 +191,9 @@ public final class EdgeTunesTest extends Bench {
             due("note " + n + " as a deed", x.judge(tray, 0), whys[n] == 0 && i == size - 1 ? NONE : firstWrong(i, size, notes, whys));
             x.write(tray, i, NONE);
         }
-        due("the rest stays: all days", x.perform(tray), size);
+        due("all can be now", x.perform(tray), size);
+        due("the rest stays: no days", x.count(5), Math.min(size, notes));
+        due("the rest stays: an ear", x.person(0, 2), size > notes ? 5 : 0);
     }
 
     private static int firstWrong(int from, int size, int notes, int[] whys) {
